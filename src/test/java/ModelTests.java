@@ -3,7 +3,8 @@ import java.util.Random;
 /** Random runs of up to 512 calls, each answer compared with the model's. */
 final class ModelTests {
     private static final String GOOD = "0123456789ac=e";
-    private static final int[] EDGES = {-1, 0, 1, 2, 3, 4, 5, 6, 7, 199, 200, 201, Integer.MAX_VALUE, Integer.MIN_VALUE};
+    private static final int[] EDGES = {-1, 0, 1, 2, 3, 4, 5, 6, 7, 199, 200, 201,
+        Integer.MAX_VALUE, Integer.MIN_VALUE};
 
     private final Random random;
     private final StripeSwipes x = new StripeSwipes();

@@ -1,4 +1,4 @@
-/** Brings objects into states by promised calls alone. */
+/** Brings objects into states by promised calls alone, and by few of them, as only the first 512 are promised. */
 final class Rows {
     private Rows() {
     }
@@ -29,10 +29,11 @@ final class Rows {
     }
 
     static StripeSwipes fit(StripeSwipes x, int... times) {
-        while (x.count(0) > times.length) {
+        int many = x.count(0);
+        for (; many > times.length; many--) {
             x.join(0);
         }
-        while (x.count(0) < times.length) {
+        for (; many < times.length; many++) {
             x.change(0, 999);
             x.scratch(0, 1);
         }
@@ -75,7 +76,8 @@ final class Rows {
 
     static String all(StripeSwipes x) {
         StringBuilder text = new StringBuilder();
-        for (int i = 0; i < x.count(0); i++) {
+        int many = x.count(0);
+        for (int i = 0; i < many; i++) {
             text.append(i == 0 ? "" : " ").append(x.time(i));
         }
         return text.toString();
@@ -91,16 +93,20 @@ final class Rows {
 
     static String bitsRead(StripeSwipes x, boolean backwards) {
         StringBuilder text = new StringBuilder();
-        for (int i = 0; x.bit(backwards, i) != StripeSwipes.NONE; i++) {
-            text.append(x.bit(backwards, i));
+        int next = x.bit(backwards, 0);
+        for (int i = 1; next != StripeSwipes.NONE; i++) {
+            text.append(next);
+            next = x.bit(backwards, i);
         }
         return text.toString();
     }
 
     static String lettersRead(StripeSwipes x, boolean backwards) {
         StringBuilder text = new StringBuilder();
-        for (int i = 0; x.letter(backwards, i) != StripeSwipes.NONE; i++) {
-            text.append(i == 0 ? "" : " ").append(x.letter(backwards, i));
+        int next = x.letter(backwards, 0);
+        for (int i = 1; next != StripeSwipes.NONE; i++) {
+            text.append(i == 1 ? "" : " ").append(next);
+            next = x.letter(backwards, i);
         }
         return text.toString();
     }
