@@ -7,8 +7,10 @@ public final class StripeSwipes {
     private static final int MOST_CHARACTERS = 40;
     private static final int MOST_SAVED = 6;
     private static final int SLOTS = 2;
+    private static final int RATIOS = 46;
 
     private static final int START = 11;
+    private static final int START_BITS = 26; // 11010
     private static final int END = 15;
     private static final int GROUP = 5;
     private static final int NUMBER_BITS = 4;
@@ -39,6 +41,7 @@ public final class StripeSwipes {
     private final Stripe stripe = new Stripe();
     private final Row newLetters = new Row(MOST_LETTERS);
     private final Row trialTimes = new Row(MOST_TIMES);
+    private final Row goodRatios = new Row(RATIOS);
 
     public StripeSwipes() {
     }
@@ -286,18 +289,8 @@ public final class StripeSwipes {
         if (what < 0 || what > 2) {
             throw new IllegalArgumentException("there is no such number");
         }
-        int least = NONE;
-        int greatest = NONE;
-        int many = 0;
-        int last = entry(MOST_VALUES, RATIO);
-        for (int ratio = entry(LEAST_VALUES, RATIO); ratio <= last; ratio++) {
-            if (rightWith(ratio) > 0) {
-                least = least == NONE ? ratio : least;
-                greatest = ratio;
-                many++;
-            }
-        }
-        return what == 0 ? least : what == 1 ? greatest : many;
+        findGoodRatios();
+        return toldOfRatios(what);
     }
 
     public int greatestJerk() {
@@ -347,8 +340,9 @@ public final class StripeSwipes {
         hash = hashed(hash, isRight());
         hash = hashed(hash, repair(0));
         hash = hashed(hash, repair(1));
+        findGoodRatios();
         for (int what = 0; what <= 2; what++) {
-            hash = hashed(hash, ratios(what));
+            hash = hashed(hash, toldOfRatios(what));
         }
         hash = hashed(hash, greatestJerk());
         hash = hashed(hash, bitsOfShare(shortShare()));
@@ -377,6 +371,27 @@ public final class StripeSwipes {
         }
         reading.read(state.times, true, ratio, value(FOLLOW));
         return reading.isCard(state.letters) ? 2 : 0;
+    }
+
+    private void findGoodRatios() {
+        goodRatios.empty();
+        int last = entry(MOST_VALUES, RATIO);
+        for (int ratio = entry(LEAST_VALUES, RATIO); ratio <= last; ratio++) {
+            if (rightWith(ratio) > 0) {
+                goodRatios.add(ratio);
+            }
+        }
+    }
+
+    private int toldOfRatios(int what) {
+        switch (what) {
+            case 0:
+                return goodRatios.at(0);
+            case 1:
+                return goodRatios.at(goodRatios.size() - 1);
+            default:
+                return goodRatios.size();
+        }
     }
 
     private int errorPlace() {
@@ -764,9 +779,11 @@ public final class StripeSwipes {
         }
 
         private int findStart() {
-            for (int i = 0; i <= bits.size() - GROUP; i++) {
-                if (numberAt(i) == START && isOdd(i)) {
-                    return i;
+            int lastFive = 0;
+            for (int i = 0; i < bits.size(); i++) {
+                lastFive = (lastFive << 1 | bits.at(i)) & 31;
+                if (i >= GROUP - 1 && lastFive == START_BITS) {
+                    return i - (GROUP - 1);
                 }
             }
             return NONE;
