@@ -130,6 +130,8 @@ final class WouldBeTests {
             }
         }
         ratios("from 50 on", x, "50 94 45");
+        x.change(5, 190);
+        ratios("all", x, "50 95 46");
         for (int what : new int[] {-1, 3, Integer.MAX_VALUE, Integer.MIN_VALUE}) {
             tally.refuses("24: what " + what, x, ARGUMENT, () -> x.ratios(what));
         }
