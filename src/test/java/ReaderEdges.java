@@ -113,8 +113,10 @@ final class ReaderEdges extends Edges {
         StripeSwipes y = Rows.row(201, 201, 201, 201, 149, 149);
         y.set(2, 33);
         is("divided once, not each part", y.reads(false, 4), 233);
-        StripeSwipes z = Rows.row(200, 200, 200, 200, 201);
-        is("rounded down", z.reads(false, 4), 200);
+        is("rounded down", Rows.row(200, 200, 200, 200, 201).reads(false, 4), 200);
+        StripeSwipes z = Rows.row(200, 200, 200, 200, 120, 131);
+        z.set(2, 100);
+        is("both times of a bit 1, an odd sum", z.reads(false, 4), 251);
     }
 
     private void lastShortTime() {

@@ -1,5 +1,8 @@
 /** Brings objects into states by promised calls alone, and by few of them, as only the first 512 are promised. */
 final class Rows {
+    /** More than can be read of any row, so that no test goes on without an end. */
+    private static final int MOST = 201;
+
     private Rows() {
     }
 
@@ -94,7 +97,7 @@ final class Rows {
     static String bitsRead(StripeSwipes x, boolean backwards) {
         StringBuilder text = new StringBuilder();
         int next = x.bit(backwards, 0);
-        for (int i = 1; next != StripeSwipes.NONE; i++) {
+        for (int i = 1; next != StripeSwipes.NONE && i <= MOST; i++) {
             text.append(next);
             next = x.bit(backwards, i);
         }
@@ -104,7 +107,7 @@ final class Rows {
     static String lettersRead(StripeSwipes x, boolean backwards) {
         StringBuilder text = new StringBuilder();
         int next = x.letter(backwards, 0);
-        for (int i = 1; next != StripeSwipes.NONE; i++) {
+        for (int i = 1; next != StripeSwipes.NONE && i <= MOST; i++) {
             text.append(i == 1 ? "" : " ").append(next);
             next = x.letter(backwards, i);
         }

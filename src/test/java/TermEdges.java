@@ -9,6 +9,9 @@ final class TermEdges extends Edges {
     void run() {
         sentences.section("What it is");
         sentences.of("An object is used for at most 512 calls after it has been made", this::lastCall);
+        sentences.section("Terms");
+        sentences.of("divisions are rounded down (all divided numbers are at least 0).", this::divisions);
+        sentences.allWereQuoted("Terms");
         sentences.section("The card");
         sentences.of("A card has 1 to 20 letters", this::lettersOfCard);
         sentences.of("each a number from 0 to 15 but 11 (the start) and 15 (the end).", this::numbersOfLetters);
@@ -25,6 +28,8 @@ final class TermEdges extends Edges {
                 + "the latter the rest.", this::halves);
         sentences.of("A swipe backwards has the same times in the other order.", this::backwards);
         sentences.of("A row has at most 200 times.", this::longestRow);
+        sentences.allWereQuoted("The card");
+        sentences.allWereQuoted("The hand");
         settings();
         inputText();
         snapshots();
@@ -40,6 +45,29 @@ final class TermEdges extends Edges {
         }
         is("call 511", x.swipe(), 52);
         is("call 512", x.isRight(), 1);
+    }
+
+    /** Each division of the document, with a rest that is not 0. */
+    private void divisions() {
+        StripeSwipes half = new StripeSwipes();
+        half.set(0, 6);
+        half.set(3, 1);
+        Rows.type(half, "0").write();
+        is("the half of 199", half.time(6), 99);
+        is("the mean of 4 times with the sum 803", steady(200, 200, 200, 203).reads(false, 4), 200);
+        is("the limit 2.85", Rows.read(limitOf(3, 95), false), "1 5 -1 0 3");
+        StripeSwipes clock = Rows.row(200, 200, 200, 200, 299);
+        clock.set(2, 1);
+        is("the clock 200.99", clock.reads(false, 4), 200);
+        is("the mean 5.75 of a share, its limit 3.75", Rows.row(3, 6, 7, 7).shortShare(), 0.0);
+        is("the limit 2.25 of a share", Rows.row(2, 3, 3, 5).shortShare(), 0.0);
+    }
+
+    /** Four times of this clock, and one that is 1 less, with this ratio. */
+    private static StripeSwipes limitOf(int clock, int ratio) {
+        StripeSwipes x = steady(clock, clock, clock, clock, clock - 1);
+        x.set(1, ratio);
+        return x;
     }
 
     private void lettersOfCard() {
@@ -172,6 +200,7 @@ final class TermEdges extends Edges {
             int setting = i;
             sentences.of(said[i], () -> range(setting, RANGES[setting][0], RANGES[setting][1], RANGES[setting][2]));
         }
+        sentences.allWereQuoted("Settings");
     }
 
     private void range(int setting, int least, int greatest, int first) {

@@ -292,6 +292,11 @@ final class WouldBeEdges extends Edges {
         is("0: its limit is 102, with a jerk of 1 it is 101, a half 101", jerkCard("0", 10, 51, 0).greatestJerk(), 0);
         is("the jerk 0 does", doingJerks(jerkCard("0", 10, 51, 0)), "0-0 ");
         is("none", jerkCard("0", 10, 50, 0).greatestJerk(), -1);
+        StripeSwipes other = jerkCard("08", 10, 68, 88);
+        is("with a jerk of 39 another card is read", other.greatestJerk(), 19);
+        other.set(3, 39);
+        other.swipe();
+        is("with the reason 0", other.reads(false, 0) + " " + other.isRight(), "0 0");
         is("without a card", empty().greatestJerk(), -1);
         is("a card in the buffer alone", typed("0").greatestJerk(), -1);
         StripeSwipes x = Rows.card("0");
@@ -322,8 +327,8 @@ final class WouldBeEdges extends Edges {
             is("the limit itself", Rows.row(150, 250).shortShare(), 0.0);
             is("less than the limit", Rows.row(149, 251).shortShare(), 0.5);
             is("2.25 is rounded down, 2 is not less", Rows.row(2, 4, 3, 3).shortShare(), 0.0);
-            is("the mean 3.75 is rounded down to 3, so the limit is 2", Rows.row(2, 4, 4, 5).shortShare(), 0.0);
-            is("1 is less than that", Rows.row(1, 4, 4, 6).shortShare(), 0.25);
+            is("the mean 5.5 is rounded down to 5, so the limit is 3", Rows.row(3, 6, 6, 7).shortShare(), 0.0);
+            is("2 is less than that", Rows.row(2, 6, 6, 8).shortShare(), 0.25);
             StripeSwipes x = Rows.row(100, 190, 310, 200);
             int[] ratios = {50, 51, 95};
             double[] shares = {0.0, 0.25, 0.25};
