@@ -191,8 +191,8 @@ final class WouldBeTests {
         tally.is("27: dirt", x.digest(), told(x, 1, 1, "0?"));
         StripeSwipes y = Rows.bits(ZEROS, START, Rows.bad(5), END, Rows.group(1));
         tally.is("27: a repair", y.digest(), told(y, 0, 0, ""));
-        for (int shorts = 1; shorts <= 40; shorts++) {
-            int[] times = new int[40 + shorts];
+        for (int shorts = 1; shorts <= 30; shorts++) {
+            int[] times = new int[20 + shorts];
             java.util.Arrays.fill(times, 999);
             java.util.Arrays.fill(times, 0, shorts, 1);
             StripeSwipes z = Rows.row(times);
