@@ -181,14 +181,16 @@ final class WouldBeTests {
         tally.is("27: a new object", new StripeSwipes().digest(), hash);
         StripeSwipes x = Rows.cardWithJerk("12=9", 3);
         tally.is("27: a card", x.digest(), told(x, 0, 0, ""));
-        x.keep(1);
-        Rows.type(x, "0?");
-        tally.is("27: a slot and the buffer", x.digest(), told(x, 0, 1, "0?"));
-        x.keep(0);
-        x.turn();
-        x.change(20, 55);
-        x.join(30);
-        tally.is("27: dirt", x.digest(), told(x, 1, 1, "0?"));
+        StripeSwipes kept = Rows.type(Rows.cardWithJerk("12=9", 3), "0?");
+        kept.keep(1);
+        tally.is("27: a slot and the buffer", kept.digest(), told(kept, 0, 1, "0?"));
+        StripeSwipes dirty = Rows.type(Rows.cardWithJerk("12=9", 3), "0?");
+        dirty.keep(0);
+        dirty.keep(1);
+        dirty.turn();
+        dirty.change(20, 55);
+        dirty.join(30);
+        tally.is("27: dirt", dirty.digest(), told(dirty, 1, 1, "0?"));
         StripeSwipes y = Rows.bits(ZEROS, START, Rows.bad(5), END, Rows.group(1));
         tally.is("27: a repair", y.digest(), told(y, 0, 0, ""));
         for (int shorts = 1; shorts <= 30; shorts++) {
