@@ -14,6 +14,7 @@ public final class AllTests {
         runSentences(tally, args.length > 1 ? args[1] : "../shared/DOC.md");
         ModelTests.run(tally);
         EndlessTests.run(tally);
+        ReadmeTests.run(tally);
         System.out.println(tally.passed() + " passed, " + tally.failed() + " failed");
         System.exit(tally.failed() == 0 ? 0 : 1);
     }
